@@ -90,10 +90,11 @@ public final class PlanTest {
         due.is("saved", x.count(9), 6);
         x.undo();
         due.same("plan behind undo", Due.plan(x), "acBDH|");
-        PlannedPages long80 = Due.planned("a9a9a9a9a9a9a9a9a7");
-        due.is("insert to 80", long80.insert(0, 1, true), 80);
-        due.is("the last is kept", long80.ask(79, 0), 0);
-        due.is("the first is new", long80.ask(0, 0), 1);
+        PlannedPages full = Due.planned("a9a9a9a9a9a9a9a9a6H");
+        due.is("insert to 80", full.insert(0, 1, true), 80);
+        due.is("the last moves on", full.ask(79, 0), 7);
+        due.is("the last still writes", full.ask(79, 1), 1);
+        due.is("the first is new", full.ask(0, 0), 1);
     }
 
     private static void insertRefuses() {
@@ -135,8 +136,10 @@ public final class PlanTest {
         due.same("plan with none to come", Due.plan(x), "a|");
         due.refused("drop with none to come", x, IndexOutOfBoundsException.class, () -> x.drop(1));
         PlannedPages full = Due.planned("a9b9c9d9e9f9g9h9a7B");
-        due.is("drop the last of 80", full.drop(79), 1);
-        due.is("drop the first of 79", full.drop(0), 0);
+        due.is("drop the first of 80", full.drop(0), 0);
+        due.is("the last comes up", full.ask(78, 0), 1);
+        due.is("the last still writes", full.ask(78, 1), 1);
+        due.is("drop the last of 79", full.drop(78), 1);
         due.is("the last then", full.ask(77, 0), 0);
         due.is("asks then", full.count(0), 78);
         PlannedPages empty = new PlannedPages();
