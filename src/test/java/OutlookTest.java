@@ -177,72 +177,23 @@ public final class OutlookTest {
         due.is("undone", x.hitShare(), 2.0 / 3.0);
     }
 
-    /** The list of promise 25, written out once more by the looks of the face. */
-    private static long digestOf(PlannedPages x, String buffer) {
-        java.util.List<Long> values = new java.util.ArrayList<>();
-        for (int what = 0; what <= 9; what++) {
-            values.add((long) x.count(what));
-        }
-        for (int place = 0; place < x.count(0); place++) {
-            for (int what = 0; what <= 3; what++) {
-                values.add((long) x.ask(place, what));
-            }
-        }
-        for (int page = 0; page <= 7; page++) {
-            for (int what = 0; what <= 7; what++) {
-                values.add((long) x.page(page, what));
-            }
-        }
-        for (int frame = 0; frame < x.count(2); frame++) {
-            values.add((long) x.frame(frame));
-        }
-        values.add((long) x.victim());
-        for (int rule = 0; rule <= 2; rule++) {
-            for (int what = 0; what <= 2; what++) {
-                values.add((long) x.byRule(rule, what));
-            }
-        }
-        values.add((long) x.fewestReads());
-        values.add((long) x.framesFor(5));
-        values.add((long) x.framesFor(10));
-        if (x.count(1) < x.count(0)) {
-            values.add((long) x.ifDropped(x.count(1)));
-        }
-        values.add((long) x.bestPin());
-        values.add(Double.doubleToLongBits(x.hitShare()));
-        values.add((long) buffer.length());
-        for (char code : buffer.toCharArray()) {
-            values.add((long) code);
-        }
-        long hash = 3001;
-        for (long value : values) {
-            hash = 31 * hash + value;
-        }
-        return hash;
-    }
-
     private static void digest() {
         PlannedPages x = new PlannedPages();
-        due.is("digest of a new object", x.digest(), digestOf(x, ""));
+        due.is("digest of a new object", x.digest(), Due.digestOf(x, ""));
         Due.type(x, "~a");
-        due.is("digest with a buffer", x.digest(), digestOf(x, "~a"));
+        due.is("digest with a buffer", x.digest(), Due.digestOf(x, "~a"));
         x.clearBuffer();
         Due.extend(x, "aBcdEaBcFgH2abe");
         x.pin(2);
         for (int done = 1; done <= 16; done++) {
             x.go(1);
-            due.is("digest, done " + done, x.digest(), digestOf(x, ""));
+            due.is("digest, done " + done, x.digest(), Due.digestOf(x, ""));
         }
         // All shares of hits that can be: n hits behind k reads, in one frame.
         for (int reads = 1; reads <= 80; reads++) {
-            PlannedPages shares = new PlannedPages();
-            shares.frames(1);
-            for (int i = 0; i < 80; i++) {
-                shares.insert(i, i < reads ? i % 2 : (reads - 1) % 2, false);
-            }
-            for (int done = 0; done <= 80 - reads; done++) {
-                shares.go(done == 0 ? reads : 1);
-                due.is("digest at " + done + " hits and " + reads + " reads", shares.digest(), digestOf(shares, ""));
+            for (int hits = 0; hits <= 80 - reads; hits++) {
+                PlannedPages shares = Due.hitsBehindReads(hits, reads);
+                due.is("digest at " + hits + " hits and " + reads + " reads", shares.digest(), Due.digestOf(shares, ""));
             }
         }
     }
