@@ -41,6 +41,7 @@ public final class LooksEdgesTest {
         digestStart();
         digestOverflow();
         digestEachValue();
+        digestFramesFor();
         digestNextAsk();
         digestBuffer();
         looksChangeNothing();
@@ -563,6 +564,12 @@ public final class LooksEdgesTest {
             due.is(hits + " of 80", Due.hitsBehindReads(hits, reads).hitShare(), hits / 80.0);
         }
         due.is("79 of 80", Due.hitsBehindReads(79, 1).hitShare(), 0.9875);
+        PlannedPages part = Due.planned("aaab");
+        double[] shares = {1.0, 0.0, 1.0 / 2, 2.0 / 3, 2.0 / 4, 2.0 / 4};
+        for (int done = 0; done <= 5; done++) {
+            due.is("the asks to come do not count, done " + done, part.hitShare(), shares[done]);
+            part.go(1);
+        }
         PlannedPages x = Due.full(80);
         x.undo();
         due.is("undone", x.hitShare(), 1.0);
@@ -633,6 +640,23 @@ public final class LooksEdgesTest {
         }
         due.is("reads only", Due.hitsBehindReads(0, 3).digest(), Due.digestOf(Due.hitsBehindReads(0, 3), ""));
         due.is("a share of 1/3", Due.hitsBehindReads(1, 2).digest(), Due.digestOf(Due.hitsBehindReads(1, 2), ""));
+    }
+
+    private static void digestFramesFor() {
+        due.sentence("framesFor 5 and 10");
+        // One read more or less asks for another number of frames.
+        due.same("around 5", framesForRow(Due.planned("abcdabeABcde"), 4, 6), "-1 5 4");
+        due.is("5", Due.planned("abcdabeABcde").digest(), Due.digestOf(Due.planned("abcdabeABcde"), ""));
+        due.same("around 10", framesForRow(Due.planned("abcdefghabcdefgh"), 9, 11), "-1 6 5");
+        due.is("10", Due.planned("abcdefghabcdefgh").digest(), Due.digestOf(Due.planned("abcdefghabcdefgh"), ""));
+    }
+
+    private static String framesForRow(PlannedPages x, int from, int to) {
+        StringBuilder text = new StringBuilder();
+        for (int reads = from; reads <= to; reads++) {
+            text.append(reads == from ? "" : " ").append(x.framesFor(reads));
+        }
+        return text.toString();
     }
 
     private static void digestNextAsk() {
